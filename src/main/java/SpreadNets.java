@@ -43,7 +43,7 @@ public final class SpreadNets {
 
     public int line(int net, int a, int b, boolean there) {
         Net it = netAt(net);
-        if (it == null || !it.hasKnots(a, b) || a == b) {
+        if (it == null || !it.hasUnlikeKnots(a, b)) {
             return BAD;
         }
         if (it.joins(a, b) == there) {
@@ -117,7 +117,7 @@ public final class SpreadNets {
 
     public int number(int net, int a, int b) {
         Net it = netAt(net);
-        if (it == null || !it.hasKnots(a, b)) {
+        if (it == null || !it.hasUnlikeKnots(a, b)) {
             return BAD;
         }
         return it.joins(a, b) ? it.lineNumber(Math.min(a, b), Math.max(a, b)) : NONE;
@@ -350,6 +350,11 @@ public final class SpreadNets {
 
         boolean hasKnots(int a, int b) {
             return hasKnot(a) && hasKnot(b);
+        }
+
+        /** What the ends of a line must be, whether there is a line or not. */
+        boolean hasUnlikeKnots(int a, int b) {
+            return hasKnots(a, b) && a != b;
         }
 
         boolean hasSet(int set) {

@@ -204,7 +204,7 @@ public final class ModelTest {
         }
 
         int number(int net, int a, int b) {
-            if (!isKnot(net, a) || !isKnot(net, b)) return BAD;
+            if (!isKnot(net, a) || !isKnot(net, b) || a == b) return BAD;
             List<int[]> all = lines(net);
             for (int i = 0; i < all.size(); i++)
                 if (all.get(i)[0] == Math.min(a, b) && all.get(i)[1] == Math.max(a, b)) return i;

@@ -208,7 +208,9 @@ public final class PromisesTest {
         due("9 3 1", x.number(0, 3, 1), 3);
         due("9 3 4", x.number(0, 3, 4), 4);
         due("9 none", x.number(0, 0, 1), NONE);
-        due("9 one knot", x.number(0, 3, 3), NONE);
+        for (int knot = 0; knot < 5; knot++) due("9 like knots", x.number(0, knot, knot), BAD);
+        due("9 like knots, one knot in all", x.number(1, 0, 0), BAD);
+        due("9 none, two knots beside no line", x.net(1, 2) + x.number(1, 1, 0), 1 + NONE);
         due("9 beyond", x.number(0, 0, 5), BAD);
         due("9 below", x.number(0, -1, 2), BAD);
         due("9 last of all", whole(10).number(0, 9, 8), 44);
@@ -490,7 +492,7 @@ public final class PromisesTest {
             due("6 wrong to", x.turned(0, net), BAD);
             due("7 wrong net", x.about(net, 0), BAD);
             due("8 wrong net", x.near(net, 0), BAD);
-            due("9 wrong net", x.number(net, 0, 0), BAD);
+            due("9 wrong net", x.number(net, 0, 1), BAD);
             due("10 wrong net", x.growth(net, true, 0), BAD);
             due("11 wrong net", x.more(net, 0, 0), BAD);
             due("12 wrong net", x.just(net, 0, 0), BAD);
