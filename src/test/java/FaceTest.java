@@ -35,6 +35,7 @@ public final class FaceTest {
         checkFields();
         checkConstructors();
         checkNested();
+        checkParameters();
         checkSource();
         System.out.println(wrong == 0 ? "the face is as told" : wrong + " faults");
         if (wrong != 0) System.exit(1);
@@ -103,6 +104,14 @@ public final class FaceTest {
         }
     }
 
+    private static void checkParameters() {
+        List<Class<?>> classes = new ArrayList<>(Arrays.asList(SpreadNets.class.getDeclaredClasses()));
+        classes.add(SpreadNets.class);
+        for (Class<?> c : classes) {
+            for (Method m : c.getDeclaredMethods()) check(m.getParameterCount() <= 7, m + " has at most seven parameters");
+        }
+    }
+
     private static void checkSource() throws Exception {
         String source = Files.readString(Path.of("src/main/java/SpreadNets.java"));
         String code = source.replaceAll("(?s)/\\*.*?\\*/", "").replaceAll("//[^\n]*", "");
@@ -110,5 +119,29 @@ public final class FaceTest {
         while (found.find()) check(false, "the source is without '" + found.group() + "'");
         Matcher imports = Pattern.compile("import ([^;]*);").matcher(code);
         while (imports.find()) check(imports.group(1).equals("java.util.Arrays"), "no import of " + imports.group(1));
+        checkRows(code.split("\n"));
+    }
+
+    /** Methods are short, and objects are made by fields and by the constructor, so that calls take no room. */
+    private static void checkRows(String[] rows) {
+        String head = "";
+        String indent = "";
+        int began = 0;
+        for (int i = 0; i < rows.length; i++) {
+            String row = rows[i];
+            if (head.isEmpty() && row.matches(" +[^=]*\\) \\{")) {
+                head = row.trim();
+                indent = row.substring(0, row.length() - row.stripLeading().length());
+                began = i;
+            }
+            if (row.contains("new ")) {
+                check(head.isEmpty() || head.startsWith("public SpreadNets()"), "a call makes no object: " + row.trim());
+            }
+            if (!head.isEmpty() && row.equals(indent + "}")) {
+                check(i - began < 60, head + " is short");
+                head = "";
+            }
+        }
+        check(head.isEmpty(), "each method ends: " + head);
     }
 }
